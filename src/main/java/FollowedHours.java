@@ -1089,7 +1089,11 @@ public final class FollowedHours {
             boolean isMore = true;
             // an ITEM has a byte at least
             while (isMore && items <= BYTES) {
-                readItem(garden);
+                if (takeWord("master")) {
+                    readMaster(garden);
+                } else {
+                    readDial(garden);
+                }
                 items++;
                 isMore = takeSign(';');
             }
@@ -1097,20 +1101,6 @@ public final class FollowedHours {
                 refuse();
             }
             return fault == NO_FAULT ? items : -1 - fault;
-        }
-
-        private void readItem(Garden garden) {
-            if (takeWord("master")) {
-                readMaster(garden);
-                return;
-            }
-            int kind = kindOfWord();
-            if (kind < 0 || garden.isFull()) {
-                refuse();
-                return;
-            }
-            findToken();
-            readDial(garden, garden.add(kind));
         }
 
         private void readMaster(Garden garden) {
@@ -1121,7 +1111,14 @@ public final class FollowedHours {
             }
         }
 
-        private void readDial(Garden garden, int d) {
+        private void readDial(Garden garden) {
+            int kind = kindOfWord();
+            if (kind < 0 || garden.isFull()) {
+                refuse();
+                return;
+            }
+            findToken();
+            int d = garden.add(kind);
             if (takeWord("shows")) {
                 garden.hourOf[d] = takeNumber(HOURS - 1);
             }
@@ -1147,12 +1144,19 @@ public final class FollowedHours {
         }
 
         private boolean takeWord(String word) {
-            return fault == NO_FAULT && isWord(word) && findToken();
+            if (fault != NO_FAULT || !isWord(word)) {
+                return false;
+            }
+            findToken();
+            return true;
         }
 
         private boolean takeSign(char sign) {
-            boolean isSign = sort == OTHER && tape.byteAt(begin) == sign;
-            return fault == NO_FAULT && isSign && findToken();
+            if (fault != NO_FAULT || sort != OTHER || tape.byteAt(begin) != sign) {
+                return false;
+            }
+            findToken();
+            return true;
         }
 
         private int takeNumber(int most) {
@@ -1205,8 +1209,8 @@ public final class FollowedHours {
             }
         }
 
-        /** Goes on to the next TOKEN, of which there is always one (END, if there are no bytes); so true. */
-        private boolean findToken() {
+        /** Behind the last TOKEN stands END, as often as it is asked for. */
+        private void findToken() {
             begin = end;
             while (begin < BYTES && tape.byteAt(begin) == ' ') {
                 begin++;
@@ -1226,7 +1230,6 @@ public final class FollowedHours {
                 sort = OTHER;
                 end++;
             }
-            return true;
         }
 
         private void readLetters() {

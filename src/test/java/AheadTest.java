@@ -64,6 +64,11 @@ public final class AheadTest {
         Check.due("halts(2)", x.halts(2), 1);
         Check.due("halts(3)", x.halts(3), 0);
         Check.due("halts(4)", x.halts(4), 100);
+        FollowedHours slow = Check.garden("dial goes 99 moss 1;dial follows 0 goes 99;dial follows 0;dial follows 2;master 0 1");
+        Check.read(slow, "dial follows 3;dial follows 4");
+        Check.due("halts(0): a RING with MOSS", slow.halts(0), 197);
+        Check.due("halts(4): the last that counts", slow.halts(4), 200);
+        Check.due("halts(5): too late", slow.halts(5), Check.NONE);
         Check.due("halts(5)", x.halts(5), Check.BEYOND);
         Check.due("halts(-1)", x.halts(-1), Check.BEYOND);
     }

@@ -108,6 +108,7 @@ public final class DialsTest {
         Check.due("stop again", x.stop(0, 1), 0);
         Check.due("GOING untouched", x.of(0, 3), 4);
         Check.due("start", x.stop(0, 0), 1);
+        Check.due("STOPPED no more", x.of(0, 4), 0);
         Check.due("GOING", x.of(0, 3), 1);
         Check.due("stop(0, 2)", x.stop(0, 2), Check.BEYOND);
         Check.due("stop(0, -1)", x.stop(0, -1), Check.BEYOND);
@@ -219,6 +220,7 @@ public final class DialsTest {
         Check.due("go(-1)", x.go(-1), Check.BEYOND);
         Check.due("go(101)", x.go(101), Check.BEYOND);
         Check.due("go(100)", x.go(100), 100);
+        // STATE is not to be had within the 512 calls that the document speaks of
         for (int i = 0; i < 998; i++) {
             x.go(100);
         }

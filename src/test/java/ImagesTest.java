@@ -112,6 +112,7 @@ public final class ImagesTest {
         Check.due("status(-1)", x.status(-1), 10);
         Check.due("a FAULT is no finding", Check.read(x, "x"), -1);
         Check.due("status(-1)", x.status(-1), 10);
+        // STATE is not to be had within the 512 calls that the document speaks of
         for (int i = 0; i < 999; i++) {
             x.go(100);
         }

@@ -52,6 +52,10 @@ public final class JogsTest {
         FollowedHours late = Check.garden("dial shows 719;dial shows 719;dial shows 3;dial shows 3");
         Check.due("right(0): the least HOUR", late.right(0), 12);
         Check.due("right(1): the least HOUR then", late.right(1), 3);
+        FollowedHours first = Check.garden("dial shows 3;dial shows 9");
+        Check.due("most(): the first one's", first.most(), 3);
+        Check.due("right(0): the first one", first.right(0), 1);
+        Check.due("jogs(0)", first.jogs(0), 1);
         FollowedHours none = new FollowedHours();
         Check.due("jogs of none", none.jogs(5), 0);
         Check.due("right of none", none.right(5), 0);

@@ -132,6 +132,11 @@ public final class SheetsTest {
         Check.lay(x, 1, 16, 9, 8, 7);
         Check.due("copy(1, 1, 0, 2, 2)", x.copy(1, 1, 0, 2, 2), 2);
         rowIs(x, 0, 1, 2, 8, 7);
+        Check.due("copy of a whole sheet", x.copy(1, 0, 0, 0, 3), 3);
+        rowIs(x, 0, 9, 8, 7, 7);
+        Check.due("copy back", x.copy(1, 1, 0, 2, 2), 2);
+        rowIs(x, 0, 9, 8, 8, 7);
+        Check.lay(x, 0, 16, 1, 2, 8, 7);
         Check.due("copy of none at the end", x.copy(1, 3, 0, 4, 0), 0);
         int[][] beyond = {{1, 0, 0, 0, 4}, {1, 2, 0, 0, 2}, {0, 0, 1, 2, 2}, {1, 4, 0, 0, 0}, {1, 0, 0, 5, 0},
             {1, -1, 0, 0, 1}, {1, 0, 0, -1, 1}, {1, 0, 0, 0, -1}, {1, Check.MAX, 0, 0, 2}, {1, 1, 0, 1, Check.MAX},

@@ -65,7 +65,7 @@ public final class TextsTest {
     private static void faults() {
         Object[][] rows = {
             {"", 0}, {" ", 1}, {"dial ", 1, "items"}, {"dial;", 5}, {"dial; ", 6}, {";dial", 0},
-            {"dials", 0}, {"dia", 0}, {"Dial", 0}, {"dIal", 0}, {"dial1", 4}, {"dial,late", 4}, {"dial;;late", 5},
+            {"dials", 0}, {"kial", 0}, {"dian", 0}, {"dial khows 1", 5}, {"pater", 0}, {"dia", 0}, {"Dial", 0}, {"dIal", 0}, {"dial1", 4}, {"dial,late", 4}, {"dial;;late", 5},
             {"dial\tlate", 4}, {"dial\n", 4}, {"lateshows 3", 0}, {"dial shows", 10}, {"dial shows ", 11},
             {"dial shows -1", 11}, {"dial shows 720", 11}, {"dial shows 1000", 11}, {"dial shows 4294967296", 11},
             {"dial shows 7 19", 13}, {"dial shows 99999999999999999999999", 11}, {"dial shows x", 11},

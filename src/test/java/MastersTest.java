@@ -85,5 +85,7 @@ public final class MastersTest {
             Check.due("masterFor", x.masterFor(w[0], w[1], w[2]), Check.BEYOND);
         }
         Check.due("masterFor(0, 0, 100)", x.masterFor(0, 0, 100), 2);
+        FollowedHours pair = Check.garden("dial goes 5;dial goes 9");
+        Check.due("masterFor(1, 0, 10): none stands", pair.masterFor(1, 0, 10), 0);
     }
 }

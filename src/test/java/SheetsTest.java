@@ -172,6 +172,9 @@ public final class SheetsTest {
         Check.due("HOURS", x.count(4), 720);
         Check.lay(x, 1, 32, 1, 2, 3, 4);
         Check.due("load(1): no DIAL 3", x.load(1), 3);
+        Check.lay(x, 1, 32, 5, 6);
+        Check.due("load(1): two numbers", x.load(1), 2);
+        Check.due("HOURS: the third stays", x.count(4), 5 + 6 + 3);
         x.sheet(1, 32, 0);
         Check.due("load(1) of none", x.load(1), 0);
         Check.due("load(2)", x.load(2), Check.MISSING);

@@ -901,7 +901,8 @@ public final class FollowedHours {
 
         /**
          * As passTicks, but right for GOING alone: that hangs on GOING and on whether TICK is odd,
-         * so what two TICKS leave as it was, each two more will leave so too.
+         * so what two TICKS leave as it was, each two more will leave so too. It is not so where
+         * TICK stays at its last one.
          */
         void passTicksForGoings(int n) {
             boolean isNew = true;
@@ -909,7 +910,7 @@ public final class FollowedHours {
                 markGoings();
                 passTick();
                 passTick();
-                isNew = !goesAsMarked();
+                isNew = tick > LAST_TICK - left || !goesAsMarked();
             }
             if (n % 2 == 1) {
                 passTick();
